@@ -89,6 +89,29 @@ public final class AgainstPlainTest {
         due.is("the bytes of the out", got.toString(), want.toString());
     }
 
+    private static void allSigns(Due due) {
+        PlainSixNumbers plain = new PlainSixNumbers();
+        for (int a = 1; a <= 100; a++) {
+            SixNumbers x = new SixNumbers();
+            for (int b = 0; b <= 5040; b++) {
+                if (b % 512 == 511) x = new SixNumbers();
+                due.is("signs(" + a + ", " + b + ")", x.signs(a, b), plain.signs(a, b));
+            }
+        }
+    }
+
+    private static void spansUnder(int acts, int most, Due due) {
+        PlainSixNumbers plain = new PlainSixNumbers();
+        SixNumbers x = new SixNumbers();
+        due.is("rule(0, " + acts + ")", x.rule(0, acts), plain.rule(0, acts));
+        due.is("rule(1, " + most + ")", x.rule(1, most), plain.rule(1, most));
+        for (int n = 1; n <= 3; n++) {
+            for (int v = 1; v <= 30; v++) {
+                for (int i = 0; i < n; i++) due.is("span(" + n + ", " + v + ", " + i + ")", x.span(n, v, i), plain.span(n, v, i));
+            }
+        }
+    }
+
     public static void main(String[] args) {
         int runs = args.length > 0 ? Integer.parseInt(args[0]) : 60;
         Due due = new Due("AgainstPlainTest");
@@ -101,6 +124,11 @@ public final class AgainstPlainTest {
                 System.out.println("in the run with seed " + seed);
             }
         }
+        for (int acts = 0; acts <= 15; acts++) {
+            for (int most = 1; most <= 20; most++) spansUnder(acts, most, due);
+            spansUnder(acts, 3000, due);
+        }
+        allSigns(due);
         due.close();
     }
 }

@@ -21,6 +21,8 @@ final class PlainSixNumbers {
     private final Map<Integer, List<TreeSet<Integer>>> drawn = new TreeMap<>();
     private List<List<Integer>> spanSets = null;
     private List<TreeSet<Integer>> spanReached = null;
+    private int stepsFrom = 0;
+    private int[] steps = null;
 
     private void rulesChange() {
         table = null;
@@ -327,6 +329,14 @@ final class PlainSixNumbers {
     int signs(int a, int b) {
         if (a < 1 || a > 100 || b < 0 || b > 5040) return OUTSIDE;
         int far = 1_000_000;
+        if (stepsFrom != a) {
+            steps = stepsOf(a, far);
+            stepsFrom = a;
+        }
+        return steps[b] == far ? NONE : steps[b];
+    }
+
+    private static int[] stepsOf(int a, int far) {
         int[] steps = new int[5041];
         Arrays.fill(steps, far);
         steps[a] = 0;
@@ -350,6 +360,6 @@ final class PlainSixNumbers {
                 }
             }
         }
-        return steps[b] == far ? NONE : steps[b];
+        return steps;
     }
 }

@@ -214,6 +214,8 @@ public final class PromisesTest {
         DUE.is("9: reached(5)", x.reached(5), 2);
         DUE.is("9: reached(7)", x.reached(7), 3);
         for (int bad : new int[] {8, 63, -1, LEAST, GREATEST}) DUE.is("9: reached(" + bad + ")", x.reached(bad), OUTSIDE);
+        DUE.is("9: reached(3), 3000 the last", heapOf(100, 30).reached(3), 3);
+        DUE.is("9: reached(0), 3000 the last", heapOf(100, 30).reached(0), 5);
         DUE.is("9: reached(0) of none", new SixNumbers().reached(0), 0);
         DUE.is("9: reached(1) of none", new SixNumbers().reached(1), OUTSIDE);
     }
@@ -256,6 +258,8 @@ public final class PromisesTest {
         DUE.is("12: aim(15, 3)", y.aim(15, 3), 10);
         DUE.is("12: aim(16, 3)", y.aim(16, 3), 20);
         DUE.is("12: aim(3000, 3)", y.aim(3000, 3), 20);
+        int[] last = {1, 2, 3, 3000};
+        for (int what = 0; what < 4; what++) DUE.is("12: aim(3000, " + what + ")", heapOf(100, 30).aim(3000, what), last[what]);
         SixNumbers none = new SixNumbers();
         DUE.is("12: aim(1, 0) of none", none.aim(1, 0), 0);
         for (int what = 1; what < 4; what++) DUE.is("12: aim(1, " + what + ") of none", none.aim(1, what), NONE);
@@ -269,6 +273,8 @@ public final class PromisesTest {
         print(heapOf(2, 2), 4, "(2+2)");
         print(heapOf(5, 5), 1, "(5/5)");
         print(heapOf(2, 3), 6, "(2*3)");
+        // By plus and times the least item is on the left: no 3+(2*5), though 3 is the lesser set.
+        print(heapOf(2, 3, 5), 13, "((2*5)+3)");
         print(heapOf(7), 7, "7");
         print(heapOf(10), 10, "10");
         print(heapOf(100), 100, "100");
@@ -372,6 +378,7 @@ public final class PromisesTest {
         int[] none = {0, 0, 0, 1};
         for (int what = 0; what < 4; what++) DUE.is("18: draws(3, 5, " + what + ") of two", few.draws(3, 5, what), none[what]);
         DUE.is("18: like cards", few.draws(1, 5, 1), 2);
+        DUE.is("18: draws(2, 3000, 1)", boxOf(100, 7, 30).draws(2, 3000, 1), 1);
         few.item(50);
         DUE.is("18: the heap stays out of it", few.draws(1, 50, 1), 0);
         DUE.is("18: and stays as it is", few.reached(0), 1);
@@ -392,10 +399,14 @@ public final class PromisesTest {
         DUE.is("19: most(1, 0) of 100", boxOf(100).most(1, 0), 100);
         for (int bad : new int[] {0, 5, -1, LEAST, GREATEST}) DUE.is("19: most(" + bad + ", 0)", x.most(bad, 0), OUTSIDE);
         for (int bad : new int[] {2, -1, LEAST, GREATEST}) DUE.is("19: most(1, " + bad + ")", x.most(1, bad), OUTSIDE);
-        // By plus 8 + 93 and 9 + 92 are 101 in two draws, and nothing to 100 is reached by two.
-        SixNumbers y = boxOf(8, 93);
+        // By plus: of 210 draws 84 have a card; 104 have none of the four pairs that are 99, so 106
+        // reach it, and likewise 100. Of the five pairs that are 101 80 have none, but it is above 100.
+        SixNumbers y = boxOf(46, 47, 48, 49, 50, 51, 52, 53, 54, 55);
         y.rule(0, 1);
-        DUE.is("19: to 100 alone", y.most(2, 0), 8);
+        DUE.is("19: most(4, 0) by plus", y.most(4, 0), 99);
+        DUE.is("19: most(4, 1) by plus", y.most(4, 1), 106);
+        DUE.is("19: draws(4, 100, 1)", y.draws(4, 100, 1), 106);
+        DUE.is("19: draws(4, 101, 1)", y.draws(4, 101, 1), 130);
     }
 
     private static void span(SixNumbers x, int v, int... want) {
@@ -413,6 +424,7 @@ public final class PromisesTest {
         span(x, 5, NONE, NONE);
         span(x, 9, 1, 2, 3);
         span(x, 100, NONE, NONE, NONE);
+        span(x, 2, NONE);
         x.rule(0, 1);
         span(x, 3, 1, 2);
         span(x, 4, NONE, NONE);
@@ -434,6 +446,10 @@ public final class PromisesTest {
         span(x, 5, 1, 4, 5);
         span(x, 6, 4, 5, 6);
         span(x, 7, NONE, NONE, NONE);
+        // By over to 4: 2/(12/6), 2, 6/2, 12/(6/2).
+        x.rule(0, 8);
+        x.rule(1, 4);
+        span(x, 4, 2, 6, 12);
     }
 
     private static void promise20Wrong() {
