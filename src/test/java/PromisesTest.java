@@ -378,7 +378,10 @@ public final class PromisesTest {
         int[] none = {0, 0, 0, 1};
         for (int what = 0; what < 4; what++) DUE.is("18: draws(3, 5, " + what + ") of two", few.draws(3, 5, what), none[what]);
         DUE.is("18: like cards", few.draws(1, 5, 1), 2);
-        DUE.is("18: draws(2, 3000, 1)", boxOf(100, 7, 30).draws(2, 3000, 1), 1);
+        SixNumbers high = boxOf(100, 30);
+        DUE.is("18: draws(2, 3000, 1)", high.draws(2, 3000, 1), 1);
+        high.card(7);
+        DUE.is("18: draws(2, 3000, 1), counted anew", high.draws(2, 3000, 1), 1);
         few.item(50);
         DUE.is("18: the heap stays out of it", few.draws(1, 50, 1), 0);
         DUE.is("18: and stays as it is", few.reached(0), 1);
