@@ -125,6 +125,19 @@ public final class BoxEdgesTest {
         draws("1 2", Made.boxOf(1, 2), 2, 1, "1 1 1 1 ");
     }
 
+    private static void the3000thIsCountedAnew() {
+        SixNumbers x = Made.boxOf(30, 100);
+        draws("30 100", x, 2, 3000, "1 1 1 1 ");
+        x.card(7);
+        draws("30 100 7", x, 2, 3000, "3 1 1 3 ");
+        x.rule(1, 2999);
+        draws("30 100 7, MOST 2999", x, 2, 3000, "3 0 0 1 ");
+        x.rule(1, 3000);
+        draws("30 100 7, MOST 3000", x, 2, 3000, "3 1 1 3 ");
+        x.empty();
+        draws("none", x, 2, 3000, "0 0 0 1 ");
+    }
+
     // ---- 'the chance in least terms'
 
     private static void chancesInLeastTerms() {
@@ -239,6 +252,19 @@ public final class BoxEdgesTest {
         }
     }
 
+    // ---- '(as THE HEAP)': nothing of a draw, or of a span of more numbers, is left there
+
+    private static void aSpanIsOfJustItsNumbers() {
+        SixNumbers x = Made.boxOf(1, 2, 3, 4);
+        draws("1 2 3 4", x, 4, 24, "1 1 1 1 ");
+        span("after a draw of four", x, 1, 2, "-1 ");
+        span("after a draw of four", x, 2, 5, "-1 -1 ");
+        span("after a draw of four", x, 3, 18, "-1 -1 -1 ");
+        span("after one of three", x, 1, 2, "-1 ");
+        draws("1 2 3 4 after spans", x, 1, 7, "4 0 0 1 ");
+        draws("1 2 3 4 after spans", x, 2, 24, "6 0 0 1 ");
+    }
+
     // ---- 'NONE: there is none such'
 
     private static void theLastSpanAndTheFirstThatIsNot() {
@@ -314,6 +340,7 @@ public final class BoxEdgesTest {
         howManyDraws();
         noDrawsOfFewerCards();
         drawsTakesItsBounds();
+        the3000thIsCountedAnew();
         chancesInLeastTerms();
         drawsByTheActsAndMostToldNow();
         someOfTheDrawMayStayOver();
@@ -323,6 +350,7 @@ public final class BoxEdgesTest {
         mostFrom1To100();
         ofLikeOnesTheLeast();
         spanTakesItsBounds();
+        aSpanIsOfJustItsNumbers();
         theLastSpanAndTheFirstThatIsNot();
         unlikeNumbers();
         numbersTo12();

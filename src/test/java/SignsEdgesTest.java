@@ -32,10 +32,14 @@ public final class SignsEdgesTest {
         for (int b : new int[] {2, 3, 6, 100, 5039, 5040}) DUE.is("signs(1, " + b + ")", x.signs(1, b), NONE);
     }
 
+    /** Each of them becomes 5040, and that all below it. */
     private static void from2OnAll() {
         for (int a = 2; a <= 100; a++) {
             SixNumbers x = new SixNumbers();
-            for (int b : new int[] {0, 1, 5039, 5040}) DUE.is("signs(" + a + ", " + b + ") is there", x.signs(a, b) >= 0 ? 1 : 0, 1);
+            for (int b = 0; b <= 5040; b++) {
+                if (b % 512 == 511) x = new SixNumbers();
+                DUE.is("signs(" + a + ", " + b + ") is there", x.signs(a, b) >= 0 ? 1 : 0, 1);
+            }
         }
     }
 
