@@ -182,6 +182,25 @@ public final class WayEdgesTest {
         for (int none : new int[] {33, 34, -1, Edges.LEAST, Edges.GREATEST}) DUE.is("out(" + none + ")", x.out(none), NONE);
     }
 
+    // ---- 'of one ITEM: it is v. Of several: an ACT ..', 'What comes is to be at most MOST'
+
+    private static void anItemAboveMostIsReachedAndPrinted() {
+        SixNumbers x = Made.ruledHeap(ALL, 1, 100, 99, 7);
+        aims("100 99 7, MOST 1", x, 100, 1, 1, 1, 100);
+        aims("100 99 7, MOST 1", x, 7, 1, 1, 4, 7);
+        printed(x, 99, "99");
+        printedOf(x, 1, 100, "100");
+        // 1 is 100 less 99, of two parts above MOST; 93, 100 less 7, is none.
+        aims("100 99 7, MOST 1", x, 1, 1, 2, 3, 1);
+        printed(x, 1, "(100-99)");
+        aims("100 99 7, MOST 1", x, 93, 0, NONE, NONE, 99);
+        // By an ACT 100 would be 100 over 1: it is above MOST, though as an ITEM it is there.
+        SixNumbers y = Made.ruledHeap(ALL, 99, 100, 1);
+        DUE.is("all(100), MOST 99", y.all(100), 1);
+        EDGES.changesNothing("printOf(3, 100), MOST 99", () -> Made.ruledHeap(ALL, 99, 100, 1), z -> z.printOf(3, 100), NOT);
+        printed(y, 100, "100");
+    }
+
     // ---- promise 13: 'OUTSIDE; NOT: it is not REACHED'
 
     private static void printTakes1To3000() {
@@ -274,6 +293,7 @@ public final class WayEdgesTest {
         anItemOfOneTwoAndThreeDigits();
         theBytes();
         theLongestOut();
+        anItemAboveMostIsReachedAndPrinted();
         printTakes1To3000();
         printOnlyOfWhatIsReached();
         printOfTakesItsBounds();
